@@ -1,4 +1,9 @@
-/** Tables whose rows set off triggers in stages. */
+/**
+ * Tables whose rows set off triggers in stages, as ../shared/DOC.md promises it.
+ *
+ * <p>All calls of a run share one room, so what a call needs is made with the object and used again: a statement from
+ * outside is carried out on the tables of the one course, and only what did not fail is copied from there.
+ */
 public final class TriggerStages {
     // Error codes, and NONE: there is none.
     public static final int NO_SUCH = -1, BAD_VALUE = -2, BAD_TEXT = -3, TOO_MANY = -4, NOT_POSSIBLE = -5, NONE = -6;
@@ -21,7 +26,7 @@ public final class TriggerStages {
     private static final int NO_ERROR = 0, NOWHERE = -1;
 
     private final State now = new State();
-    private final Course course = new Course(now);
+    private final Course course = new Course();
     private final Pad pad = new Pad();
     private final History history = new History();
     private final State[] slots = new State[SLOTS];
@@ -90,7 +95,7 @@ public final class TriggerStages {
         if (error != NO_ERROR) {
             return error;
         }
-        course.run(kind, table, key, number, now.depth, NOWHERE);
+        course.run(now, kind, table, key, number, now.depth, NOWHERE);
         if (course.failure.isThere()) {
             return NOT_POSSIBLE;
         }
@@ -107,7 +112,7 @@ public final class TriggerStages {
         if (!isWithin(what, FACTS_OF_A_TRIAL)) {
             return BAD_VALUE;
         }
-        course.run(kind, table, key, number, now.depth, NOWHERE);
+        course.run(now, kind, table, key, number, now.depth, NOWHERE);
         Failure failure = course.failure;
         switch (what) {
             case 0:
@@ -220,13 +225,13 @@ public final class TriggerStages {
         if (error != NO_ERROR) {
             return error;
         }
-        course.run(kind, table, key, number, now.depth, NOWHERE);
+        course.run(now, kind, table, key, number, now.depth, NOWHERE);
         if (!course.failure.isThere()) {
             return NONE;
         }
         int found = 0;
         for (int without = 0; without < now.triggers.size(); without++) {
-            course.run(kind, table, key, number, now.depth, without);
+            course.run(now, kind, table, key, number, now.depth, without);
             if (!course.failure.isThere()) {
                 found |= 1 << without;
             }
@@ -240,7 +245,7 @@ public final class TriggerStages {
             return error;
         }
         for (int depth = 0; depth < DEPTHS; depth++) {
-            course.run(kind, table, key, number, depth, NOWHERE);
+            course.run(now, kind, table, key, number, depth, NOWHERE);
             if (!course.failure.isThere()) {
                 return depth;
             }
@@ -279,8 +284,8 @@ public final class TriggerStages {
         history.keep(now);
         int carried = 0;
         for (; carried < pad.statements(); carried++) {
-            course.run(pad.get(carried, Pad.KIND), pad.get(carried, Pad.TABLE), pad.get(carried, Pad.KEY),
-                    pad.get(carried, Pad.NUMBER), now.depth, NOWHERE);
+            course.run(now, pad.get(carried, Pad.KIND), pad.get(carried, Pad.TABLE),
+                    pad.get(carried, Pad.KEY), pad.get(carried, Pad.NUMBER), now.depth, NOWHERE);
             if (course.failure.isThere()) {
                 break;
             }
@@ -729,21 +734,18 @@ public final class TriggerStages {
         final Failure failure = new Failure();
         int leftOut = 0;
 
-        private final State start;
-        private final Sheet triggers;
+        private final Sheet triggers = new Sheet(TRIGGERS, Triggers.COLUMNS);
         private final Sheet waiting = new Sheet(STATEMENTS * TRIGGERS, WAITING_COLUMNS);
+        private boolean isLenient = false;
         private int depthLimit = 0;
         private int without = NOWHERE;
         private int inMotion = 0;
 
-        Course(State start) {
-            this.start = start;
-            triggers = start.triggers.sheet;
-        }
-
-        /** Carries a statement out from the start, with a DEPTH, and without a trigger (NOWHERE: with all). */
-        void run(int kind, int table, int key, int number, int depthLimit, int without) {
-            tables.copyFrom(start.tables);
+        /** Carries a statement out on a copy of a state, with a DEPTH, and without a trigger (NOWHERE: with all). */
+        void run(State state, int kind, int table, int key, int number, int depthLimit, int without) {
+            tables.copyFrom(state.tables);
+            triggers.copyFrom(state.triggers.sheet);
+            isLenient = state.lenient == 1;
             journal.clear();
             begun.clear();
             failure.clear();
@@ -819,7 +821,7 @@ public final class TriggerStages {
 
         /** Tells whether a statement that is not possible is left out, and counts it then. */
         private boolean isLeftOut(int cause) {
-            if (cause == NOWHERE || start.lenient == 0) {
+            if (cause == NOWHERE || !isLenient) {
                 return false;
             }
             leftOut++;
@@ -877,7 +879,7 @@ public final class TriggerStages {
         private static final int SIGNS_OF_A_LONG = 8;
 
         private final char[] signs = new char[SIGNS];
-        private final Sheet read = new Sheet(MOST, COLUMNS);
+        private final Sheet parsed = new Sheet(MOST, COLUMNS);
         private int length = 0;
         private int at = 0;
 
@@ -913,17 +915,17 @@ public final class TriggerStages {
         }
 
         int statements() {
-            return read.size();
+            return parsed.size();
         }
 
         int get(int statement, int column) {
-            return read.get(statement, column);
+            return parsed.get(statement, column);
         }
 
         /** Reads the text from left to right, and returns its fault, NONE if there is none. */
         int read() {
             at = 0;
-            read.clear();
+            parsed.clear();
             for (int turn = 0; turn < MOST; turn++) {
                 if (!readStatement()) {
                     return at;
@@ -1007,11 +1009,11 @@ public final class TriggerStages {
         }
 
         private void keep(int kind, int table, int key, int number) {
-            int statement = read.append();
-            read.change(statement, KIND, kind);
-            read.change(statement, TABLE, table);
-            read.change(statement, KEY, key);
-            read.change(statement, NUMBER, number);
+            int statement = parsed.append();
+            parsed.change(statement, KIND, kind);
+            parsed.change(statement, TABLE, table);
+            parsed.change(statement, KEY, key);
+            parsed.change(statement, NUMBER, number);
         }
     }
 }
