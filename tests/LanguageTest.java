@@ -22,7 +22,8 @@ public final class LanguageTest {
         "leastDepth(int,int,int,int)", "put(long)", "wipe()", "fault()", "carryOut()", "undo()", "save(int)",
         "restore(int)"};
     private static final String BANNED = "throw|throws|try|catch|finally|synchronized|assert|import|package|float|"
-            + "volatile|transient|native|protected|Object|System\\.(?!arraycopy)|hashCode|toString|->|::|[?]\\s*extends";
+            + "volatile|transient|native|protected|Object|System\\.(?!arraycopy)|hashCode|toString|->|::|"
+            + "[?]\\s*extends";
     private static final int LONGEST_METHOD = 60;
 
     private static int wrong = 0;
@@ -109,7 +110,8 @@ public final class LanguageTest {
         int from = -1;
         String[] lines = source.split("\n");
         for (int i = 0; i < lines.length; i++) {
-            if (lines[i].matches(" +(\\w+ )*\\w+(\\[])* ?\\w*\\(.*\\) \\{") && !lines[i].matches(" +(if|for|while|switch|\\}).*")) {
+            if (lines[i].matches(" +(\\w+ )*\\w+(\\[])* ?\\w*\\(.*\\) \\{")
+                    && !lines[i].matches(" +(if|for|while|switch|\\}).*")) {
                 from = i;
             } else if (lines[i].matches("( {4}| {8})}")) {
                 due("a short method at line " + (from + 1), from < 0 || i - from < LONGEST_METHOD);

@@ -11,8 +11,9 @@ import java.util.regex.Pattern;
  * answer. The calls come from a fixed row of numbers, so that each run of the test is the same.
  */
 public final class ModelTest {
-    private static final int RUNS = 600;
-    private static final int CALLS = 512;
+    private static final int RUNS = 8000;
+    // What an object answers behind its 512th call is free.
+    private static final int CALLS = 512, MOST_CALLS_OF_A_STEP = 60;
     private static final int REASONS = 6;
 
     private static int wrong = 0;
@@ -68,30 +69,35 @@ public final class ModelTest {
         private final int keys;
         private final int bars;
         private final boolean adds;
+        private int calls = 0;
 
         Player(int run, long[] seen, long[] chains) {
             this.run = run;
             this.seen = seen;
             this.chains = chains;
             numbers = new Numbers(run);
-            keys = new int[] {4, 20, 100}[run % 3];
-            bars = new int[] {1, 10, 1000}[run / 3 % 3];
+            keys = new int[] {4, 20, 100}[run / 3 % 3];
+            bars = new int[] {1, 10, 1000}[run / 9 % 3];
             // Triggers that add 0 to rows that are there can go on for long.
-            adds = run % 4 == 0;
+            adds = run % 3 == 0;
         }
 
         void play() {
             for (int table = 0; adds && table < 4; table++) {
-                due(0, "state", x.state(0, table, 1, 2), model.state(0, table, 1, 2), table);
+                due("state", x.state(0, table, 1, 2), model.state(0, table, 1, 2), table);
             }
-            for (int call = 0; call < CALLS && wrong < 20; call++) {
-                step(call);
+            for (int step = 0; calls <= CALLS - MOST_CALLS_OF_A_STEP && wrong < 20; step++) {
+                step(step);
+            }
+            if (calls > CALLS) {
+                fail("run " + run + " has " + calls + " calls");
             }
         }
 
-        private void due(int call, String name, int got, int want, int... args) {
+        private void due(String name, int got, int want, int... args) {
+            calls++;
             if (got != want) {
-                fail("run " + run + ", call " + call + ": " + name + Arrays.toString(args) + " answered " + got
+                fail("run " + run + ", call " + calls + ": " + name + Arrays.toString(args) + " answered " + got
                         + ", due is " + want);
             }
         }
@@ -109,72 +115,85 @@ public final class ModelTest {
             return numbers.below(30) == 0 ? around(100) : adds ? numbers.below(3) : numbers.below(keys);
         }
 
+        /** The key of a row that is there, if the table has one. */
+        private int keyOfARow(int table) {
+            int rows = Math.max(0, model.count(Math.floorMod(table, 4)));
+            return rows == 0 ? key() : model.row(Math.floorMod(table, 4), numbers.below(rows), 0);
+        }
+
         private int number() {
             return numbers.below(8) == 0 ? around(1000) : numbers.below(bars * 2);
         }
 
-        private void step(int call) {
+        private void step(int step) {
             int turn = numbers.below(100);
-            if (call < 40 ? turn < 60 : turn < 12) {
-                build(call);
+            if (step < 40 ? turn < 60 : turn < 12) {
+                build();
             } else if (turn < 75) {
-                carry(call);
+                carry();
             } else if (turn < 92) {
-                look(call);
+                look();
             } else {
-                text(call);
+                text();
             }
         }
 
-        private void build(int call) {
+        private void build() {
             int turn = numbers.below(20);
             if (turn < 7) {
                 int[] a = {around(4), adds ? 1 : numbers.below(3) == 0 ? around(3) : numbers.below(2),
                     adds && numbers.below(4) != 0 ? 2 : around(3),
                     numbers.below(3) == 0 ? around(1000) : numbers.below(bars)};
-                due(call, "trigger", x.trigger(a[0], a[1], a[2], a[3]), model.trigger(a[0], a[1], a[2], a[3]), a);
+                due("trigger", x.trigger(a[0], a[1], a[2], a[3]), model.trigger(a[0], a[1], a[2], a[3]), a);
                 if (adds) {
                     int newest = model.now.triggers.size() - 1;
                     int target = numbers.below(4);
-                    due(call, "deed", x.deed(newest, 2, target, 0, 0), model.deed(newest, 2, target, 0, 0), newest);
+                    due("deed", x.deed(newest, 2, target, 0, 0), model.deed(newest, 2, target, 0, 0), newest);
                 }
             } else if (turn < 16 && adds) {
                 int[] a = {around(Math.max(1, model.now.triggers.size())), numbers.below(30) == 0 ? 0 : 2, around(4),
                     0, 0};
-                due(call, "deed", x.deed(a[0], a[1], a[2], a[3], a[4]),
+                due("deed", x.deed(a[0], a[1], a[2], a[3], a[4]),
                         model.deed(a[0], a[1], a[2], a[3], a[4]), a);
             } else if (turn < 16) {
                 int[] a = {around(Math.max(1, model.now.triggers.size())),
                     numbers.below(8) == 0 ? around(4) : 1 + numbers.below(3), around(4),
                     numbers.below(2) == 0 ? numbers.below(3) : around(100), number()};
-                due(call, "deed", x.deed(a[0], a[1], a[2], a[3], a[4]),
+                due("deed", x.deed(a[0], a[1], a[2], a[3], a[4]),
                         model.deed(a[0], a[1], a[2], a[3], a[4]), a);
             } else if (turn < 17) {
                 int a = around(12);
-                due(call, "dropTrigger", x.dropTrigger(a), model.dropTrigger(a), a);
+                due("dropTrigger", x.dropTrigger(a), model.dropTrigger(a), a);
             } else {
                 int setting = around(2);
                 int value = setting == 0 ? (numbers.below(adds ? 8 : 2) != 0 ? 8 : around(9)) : around(2);
-                due(call, "set", x.set(setting, value), model.set(setting, value), setting, value);
+                due("set", x.set(setting, value), model.set(setting, value), setting, value);
             }
         }
 
-        private void carry(int call) {
+        private void carry() {
             int[] a = {numbers.below(3) == 0 ? around(3) : numbers.below(2), around(4), key(),
                 adds ? numbers.below(3) : number()};
+            if (a[0] != 0 && numbers.below(4) != 0) {
+                a[2] = keyOfARow(a[1]);
+            }
             int turn = numbers.below(10);
             if (turn < 3) {
-                due(call, "state", x.state(a[0], a[1], a[2], a[3]), model.state(a[0], a[1], a[2], a[3]), a);
+                due("state", x.state(a[0], a[1], a[2], a[3]), model.state(a[0], a[1], a[2], a[3]), a);
             } else if (turn < 4) {
-                due(call, "culprits", x.culprits(a[0], a[1], a[2], a[3]),
+                due("culprits", x.culprits(a[0], a[1], a[2], a[3]),
                         model.culprits(a[0], a[1], a[2], a[3]), a);
             } else if (turn < 5) {
-                due(call, "leastDepth", x.leastDepth(a[0], a[1], a[2], a[3]),
+                due("leastDepth", x.leastDepth(a[0], a[1], a[2], a[3]),
                         model.leastDepth(a[0], a[1], a[2], a[3]), a);
             } else {
+                boolean all = numbers.below(4) == 0;
                 for (int what = -1; what < 22; what++) {
+                    if (!all && what != 0 && what != 7 && numbers.below(8) != 0) {
+                        continue;
+                    }
                     int want = model.tried(a[0], a[1], a[2], a[3], what);
-                    due(call, "tried " + what, x.tried(a[0], a[1], a[2], a[3], what), want, a);
+                    due("tried " + what, x.tried(a[0], a[1], a[2], a[3], what), want, a);
                     if (what == 0 && want >= 0) {
                         seen[want]++;
                     } else if (what == 7 && want >= 0) {
@@ -184,48 +203,58 @@ public final class ModelTest {
             }
         }
 
-        private void look(int call) {
-            int a = around(4);
-            int b = around(12);
-            int c = key();
-            due(call, "value", x.value(a, c), model.value(a, c), a, c);
+        private void look() {
+            int turn = numbers.below(5);
+            int table = around(4);
+            int place = around(12);
             for (int what = -1; what < 12; what++) {
-                due(call, "row", x.row(a, b, what), model.row(a, b, what), a, b, what);
-                due(call, "ofTrigger", x.ofTrigger(b, what), model.ofTrigger(b, what), b, what);
-                due(call, "journal", x.journal(b, what), model.journal(b, what), b, what);
-            }
-            for (int what = -1; what < 13; what++) {
-                due(call, "count", x.count(what), model.count(what), what);
-            }
-            for (int place = -1; place <= 100; place++) {
-                int what = numbers.below(6);
-                due(call, "journal", x.journal(place, what), model.journal(place, what), place, what);
+                if (turn == 0) {
+                    due("row", x.row(table, place, what), model.row(table, place, what), table, place, what);
+                } else if (turn == 1) {
+                    due("ofTrigger", x.ofTrigger(place, what), model.ofTrigger(place, what), place, what);
+                } else if (turn == 2) {
+                    due("count", x.count(what), model.count(what), what);
+                } else if (turn == 3) {
+                    int key = key();
+                    due("value", x.value(table, key), model.value(table, key), table, key);
+                } else {
+                    lookAtTheJournal(what);
+                }
             }
         }
 
-        private void text(int call) {
+        /** Looks mostly at places that are there, and at those just outside. */
+        private void lookAtTheJournal(int what) {
+            int place = numbers.below(4) == 0 ? around(100) : numbers.below(model.now.journal.size() + 2) - 1;
+            due("journal", x.journal(place, what), model.journal(place, what), place, what);
+            int right = numbers.below(6);
+            due("journal", x.journal(place, right), model.journal(place, right), place, right);
+        }
+
+        private void text() {
             int turn = numbers.below(12);
             if (turn < 5) {
-                write(call);
+                write();
             } else if (turn < 7) {
-                due(call, "fault", x.fault(), model.fault());
-                due(call, "carryOut", x.carryOut(), model.carryOut());
-                due(call, "wipe", x.wipe(), model.wipe());
+                due("fault", x.fault(), model.fault());
+                due("carryOut", x.carryOut(), model.carryOut());
+                due("wipe", x.wipe(), model.wipe());
             } else if (turn < 9) {
-                due(call, "undo", x.undo(), model.undo());
+                due("undo", x.undo(), model.undo());
             } else if (turn < 10) {
                 int slot = around(2);
-                due(call, "save", x.save(slot), model.save(slot), slot);
+                due("save", x.save(slot), model.save(slot), slot);
             } else if (turn < 11) {
                 int slot = around(2);
-                due(call, "restore", x.restore(slot), model.restore(slot), slot);
+                due("restore", x.restore(slot), model.restore(slot), slot);
             } else {
-                long odd = (long) numbers.below(1 << 30) << 34 | (long) numbers.below(1 << 30) << 8 | numbers.below(256);
-                due(call, "put " + odd, x.put(odd), model.put(odd));
+                long high = (long) numbers.below(1 << 30) << 34;
+                long odd = high | (long) numbers.below(1 << 30) << 8 | numbers.below(256);
+                due("put " + odd, x.put(odd), model.put(odd));
             }
         }
 
-        private void write(int call) {
+        private void write() {
             StringBuilder text = new StringBuilder();
             int statements = 1 + numbers.below(4);
             for (int i = 0; i < statements; i++) {
@@ -244,9 +273,9 @@ public final class ModelTest {
                 for (int i = from; i < Math.min(text.length(), from + 8); i++) {
                     characters = characters << 8 | text.charAt(i);
                 }
-                due(call, "put " + characters, x.put(characters), model.put(characters));
+                due("put " + characters, x.put(characters), model.put(characters));
             }
-            due(call, "fault of " + text, x.fault(), model.fault());
+            due("fault of " + text, x.fault(), model.fault());
         }
     }
 

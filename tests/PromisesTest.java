@@ -1,13 +1,5 @@
 /** Each promise of the document by itself: ordinary inputs, the edges that it names, and wrong inputs. */
-public final class PromisesTest {
-    private static final int NO_SUCH = -1, BAD_VALUE = -2, BAD_TEXT = -3, TOO_MANY = -4, NOT_POSSIBLE = -5, NONE = -6;
-    private static final int REFUSE = 0, DO_LAY = 1, DO_ADD = 2, DO_DROP = 3;
-    private static final int LAY = 0, ADD = 1, DROP = 2;
-    private static final int AHEAD = 0, BEHIND = 1, LAST = 2;
-    private static final int CUT = 1, LONG = 2, MOTION = 3, ROW = 4, REFUSED = 5;
-
-    private static int wrong = 0;
-
+public final class PromisesTest extends Checks {
     public static void main(String[] args) {
         newObject();
         set();
@@ -37,35 +29,7 @@ public final class PromisesTest {
         undo();
         save();
         restore();
-        System.out.println(wrong == 0 ? "all promises stand" : wrong + " answers are not as due");
-        if (wrong != 0) {
-            System.exit(1);
-        }
-    }
-
-    private static void due(String call, long got, long want) {
-        if (got != want) {
-            wrong++;
-            System.out.println(call + " answered " + got + ", due is " + want);
-        }
-    }
-
-    /** Makes a trigger with a deed. */
-    private static void make(TriggerStages x, int table, int kind, int stage, int bar, int... deed) {
-        int number = x.trigger(table, kind, stage, bar);
-        x.deed(number, deed[0], deed[1], deed[2], deed[3]);
-    }
-
-    private static int put(TriggerStages x, String text) {
-        int length = x.count(10);
-        for (int from = 0; from < text.length(); from += 8) {
-            long characters = 0;
-            for (int i = from; i < Math.min(from + 8, text.length()); i++) {
-                characters = characters << 8 | text.charAt(i);
-            }
-            length = x.put(characters);
-        }
-        return length;
+        end("all promises stand");
     }
 
     private static void newObject() {
@@ -263,23 +227,6 @@ public final class PromisesTest {
         due("6: below the bar", z.state(LAY, 0, 4, 4), 1);
     }
 
-    private static void dueJournal(String name, TriggerStages x, int[][] done) {
-        due(name + ": length of the journal", x.count(5), done.length);
-        for (int place = 0; place < done.length; place++) {
-            for (int what = 0; what < 6; what++) {
-                due(name + ": journal(" + place + ", " + what + ")", x.journal(place, what), done[place][what]);
-            }
-        }
-        due(name + ": behind the last", x.journal(done.length, 0), NO_SUCH);
-    }
-
-    private static void dueTried(String name, TriggerStages x, int[] statement, int... want) {
-        for (int what = 0; what < 21; what++) {
-            due(name + ": tried " + what, x.tried(statement[0], statement[1], statement[2], statement[3], what),
-                    what < want.length ? want[what] : NONE);
-        }
-    }
-
     private static void tried() {
         TriggerStages x = new TriggerStages();
         due("7: table 4, wrong what, too", x.tried(0, 4, 0, 0, 21), NO_SUCH);
@@ -322,7 +269,8 @@ public final class PromisesTest {
         dueTried("7: what waits first fails first", y, new int[] {LAY, 0, 98, 1}, REFUSED, 0, 2, 0, 1, 0, 98, 1, 2);
         y.dropTrigger(2);
         y.set(0, 8);
-        dueTried("7: round and round", y, new int[] {LAY, 0, 98, 1}, CUT, 0, 9, 0, 8, 1, 7, 9, 0, 1, 0, 1, 0, 1, 0, 1, 0);
+        dueTried("7: round and round", y, new int[] {LAY, 0, 98, 1},
+                CUT, 0, 9, 0, 8, 1, 7, 9, 0, 1, 0, 1, 0, 1, 0, 1, 0);
     }
 
     private static void triedLimits() {
