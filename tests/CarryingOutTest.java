@@ -7,6 +7,7 @@ public final class CarryingOutTest extends Checks {
         hundredStatementsAreBegun();
         theJournalOfHundredStatements();
         hundredWithThoseLeftOut();
+        moreThanHundredWait();
         whatIsLongIsBegunNoMore();
         cutComesAheadOfLong();
         longComesAheadOfMotionAndRow();
@@ -109,6 +110,35 @@ public final class CarryingOutTest extends Checks {
         dueTried("one more", y, new int[] {ADD, 0, 1, 0}, LONG, 0, 100, 0, 4, 1, 2, 5, 0, 3, 5, 8, 2);
         due("one more, state", y.state(ADD, 0, 1, 0), NOT_POSSIBLE);
         due("no DEPTH lets it go", y.leastDepth(ADD, 0, 1, 0), NONE);
+    }
+
+    /** Makes 12 triggers that all are set off by each ADD on table 0, and wait; they add a number to the same row. */
+    private static TriggerStages twelveWaiting(int number) {
+        TriggerStages x = new TriggerStages();
+        x.set(0, 8);
+        x.state(LAY, 0, 1, 0);
+        for (int i = 0; i < 12; i++) {
+            make(x, 0, ADD, LAST, 0, DO_ADD, 0, 0, number);
+        }
+        return x;
+    }
+
+    private static void moreThanHundredWait() {
+        int[] statement = {ADD, 0, 1, 0};
+        // From outside 1, of the depth 1 all 12, of the depth 2 there are 87: the next one is the 4th of the 8th setter.
+        dueTried("the 101st of 1,200", twelveWaiting(0), statement, LONG, 0, 100, 0, 2, 0, 1, 2, 7, 3);
+        TriggerStages refusing = twelveWaiting(0);
+        refusing.trigger(0, ADD, LAST, 0);
+        due("there are 12 already", refusing.count(4), 12);
+        refusing.deed(3, REFUSE, 0, 0, 0);
+        dueTried("a REFUSE that waits as the 4th", refusing, statement, REFUSED, 0, 4, 0, 1, 0, 1, 1, 3);
+        // 499 and 499 are added; what waits behind them is left out, first by those of the depth 1.
+        TriggerStages lenient = twelveWaiting(499);
+        lenient.set(1, 1);
+        dueTried("those left out", lenient, statement, 0, 3, 37, 34, 2, NONE, NONE, 0);
+        lenient.state(ADD, 0, 1, 0);
+        due("499 and 499", lenient.value(0, 1), 998);
+        due("the third would be too much", lenient.journal(3, 0), NO_SUCH);
     }
 
     private static void theJournalOfHundredStatements() {

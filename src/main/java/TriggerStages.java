@@ -735,7 +735,8 @@ public final class TriggerStages {
         int leftOut = 0;
 
         private final Sheet triggers = new Sheet(TRIGGERS, Triggers.COLUMNS);
-        private final Sheet waiting = new Sheet(STATEMENTS * TRIGGERS, WAITING_COLUMNS);
+        // Each turn of one that waits begins a statement or ends the course, so those behind have no turn.
+        private final Sheet waiting = new Sheet(STATEMENTS, WAITING_COLUMNS);
         private boolean isLenient = false;
         private int depthLimit = 0;
         private int without = NOWHERE;
@@ -755,7 +756,7 @@ public final class TriggerStages {
             this.depthLimit = depthLimit;
             this.without = without;
             boolean goesOn = carry(kind, table, key, number, 0, NOWHERE, NONE);
-            for (int next = 0; goesOn && next < waiting.size(); next++) {
+            for (int next = 0; goesOn && next < STATEMENTS && next < waiting.size(); next++) {
                 int setter = waiting.get(next, SETTER);
                 goesOn = doDeed(waiting.get(next, TRIGGER), setter, begun.get(setter, DEPTH) + 1);
             }
